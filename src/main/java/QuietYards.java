@@ -655,37 +655,39 @@ public final class QuietYards {
       Arrays.fill(row, 0);
       row[yard] = noise;
       boolean changed = true;
-      // every round goes at least one border further on each way, and no loudest way has more than all yards
+      // each round goes at least one border further along every way, and no loudest way enters a yard twice;
+      // a sweep on leaves nothing to carry on, so all is settled once the sweep against changes nothing
       for (int round = 0; round < MOST_YARDS && changed; round++) {
-        boolean on = sweepOn(hill, row);
-        boolean against = sweepAgainst(hill, row);
-        changed = on || against;
+        sweepOn(hill, row);
+        changed = sweepAgainst(hill, row);
       }
     }
 
-    private boolean sweepOn(Hill hill, int[] row) {
-      int toRight = lossWith(hill.ground.right);
-      int toDown = lossWith(hill.ground.down);
-      boolean changed = false;
+    private void sweepOn(Hill hill, int[] row) {
+      Ground ground = hill.ground;
+      int toRight = lossWith(ground.right);
+      int toDown = lossWith(ground.down);
       for (int y = 0; y < hill.high; y++) {
         for (int x = 0; x < hill.wide; x++) {
           int yard = hill.wide * y + x;
-          if (x + 1 < hill.wide && carry(hill.ground, 2 * yard, row, yard, yard + 1, toRight)) changed = true;
-          if (y + 1 < hill.high && carry(hill.ground, 2 * yard + 1, row, yard, yard + hill.wide, toDown)) changed = true;
+          int below = yard + hill.wide;
+          if (x + 1 < hill.wide) carry(ground, 2 * yard, row, yard, yard + 1, toRight);
+          if (y + 1 < hill.high) carry(ground, 2 * yard + 1, row, yard, below, toDown);
         }
       }
-      return changed;
     }
 
     private boolean sweepAgainst(Hill hill, int[] row) {
-      int toLeft = lossWith(-hill.ground.right);
-      int toUp = lossWith(-hill.ground.down);
+      Ground ground = hill.ground;
+      int toLeft = lossWith(-ground.right);
+      int toUp = lossWith(-ground.down);
       boolean changed = false;
       for (int y = hill.high - 1; y >= 0; y--) {
         for (int x = hill.wide - 1; x >= 0; x--) {
           int yard = hill.wide * y + x;
-          if (x + 1 < hill.wide && carry(hill.ground, 2 * yard, row, yard + 1, yard, toLeft)) changed = true;
-          if (y + 1 < hill.high && carry(hill.ground, 2 * yard + 1, row, yard + hill.wide, yard, toUp)) changed = true;
+          int below = yard + hill.wide;
+          if (x + 1 < hill.wide && carry(ground, 2 * yard, row, yard + 1, yard, toLeft)) changed = true;
+          if (y + 1 < hill.high && carry(ground, 2 * yard + 1, row, below, yard, toUp)) changed = true;
         }
       }
       return changed;

@@ -65,6 +65,13 @@ final class HillTextTest {
     Due.same("cleared", y.count(5), 0);
     Due.same("clear again", y.clear(), 0);
     Due.same("nothing of it is read", y.hill(), 0);
+    Due.type(y, "hill 4 33;wallz");
+    y.clear();
+    Due.type(y, "hill 4 3");
+    Due.same("no digit of it is read", y.hill(), -18);
+    y.clear();
+    Due.type(y, "hill 4 3;wal");
+    Due.same("no letter of it is read", y.hill(), -19);
   }
 
   private static void reading() {
@@ -118,6 +125,16 @@ final class HillTextTest {
     Due.same("empty text", Due.tell(y, ""), 0);
     Due.same("no workers then", y.count(2), 0);
     Due.same("a day of nobody", y.day(1), 0);
+    QuietYards often = new QuietYards();
+    for (int i = 1; i < 5; i++) {
+      for (int again = 0; again < i; again++) {
+        Due.tell(often, "hill 5 2;wall 0 1 3;felt 5 6 9;wind left 2;wind up 2;worker 3 9 1 5;deed 0 2 3 4 5;");
+      }
+      Due.same("a plain text behind " + i, Due.tell(often, "worker 5 50 1 2;"), 1);
+      for (int what = 0; what < 8; what++) Due.same("plain count " + what, often.count(what), counts[what]);
+      Due.same("no wind from left", often.loud(0, 6), 47);
+      Due.same("no wind from below", often.loud(0, 9), 47);
+    }
   }
 
   private static void sizes() {
@@ -153,6 +170,9 @@ final class HillTextTest {
     Due.same("capital behind", Due.fault("hill 4 3;wallX"), 13);
     Due.same("unknown word", Due.fault("hill 4 3;hillx 1 2;"), 9);
     Due.same("part of a word", Due.fault("worke 0 1 0 0;"), 0);
+    Due.same("a word and z", Due.fault("hillz 4 3;"), 0);
+    Due.same("another first letter", Due.fault("till 4 3;"), 0);
+    Due.same("another last letter", Due.fault("hilt 4 3;"), 0);
     Due.same("word of 398 letters", Due.fault(" " + "d".repeat(398) + ";"), 1);
     Due.same("minus", Due.fault("worker 0 -1 0 0;"), 9);
     Due.same("comma", Due.fault("worker 0,1 0 0;"), 8);

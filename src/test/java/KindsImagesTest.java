@@ -6,6 +6,7 @@ final class KindsImagesTest {
     rates();
     ratesRefused();
     keepAndBack();
+    windIsKept();
     imagesAreTwo();
     imagesRefused();
     backIsHeard();
@@ -80,6 +81,16 @@ final class KindsImagesTest {
     y.fade(7);
     Due.same("back again", y.back(0), 1);
     Due.same("fade is not kept", y.fade(3), 7);
+  }
+
+  private static void windIsKept() {
+    QuietYards y = Due.told("worker 5 50 0 0;");
+    y.wind(1, -2);
+    y.keep(1);
+    y.wind(-1, 2);
+    y.back(1);
+    Due.same("to the right", y.loud(0, 6), 48);
+    Due.same("up", y.loud(0, 1), 49);
   }
 
   private static void imagesAreTwo() {

@@ -51,6 +51,9 @@ final class PlansTest {
     QuietYards never = Due.told("worker 0 50 0 5;deed 1 0 11 0 99;");
     Due.same("nobody is best", never.plan(0, 1, 0), 0);
     Due.same("brings nothing", never.plan(0, 1, 1), 0);
+    QuietYards after = Due.told("worker 0 50 0 5;deed 1 3 3 0 99;");
+    Due.same("he works", after.plan(2, 1, 0), 1);
+    Due.same("an hour later he does not", after.plan(3, 1, 0), 0);
     Due.same("each deed is paid once", Due.told("worker 0 50 0 50;worker 0 50 0 50;deed 1 0 11 0 30;").plan(0, 1, 1), 70);
   }
 
@@ -179,6 +182,15 @@ final class PlansTest {
     Due.same("hour 6: deed 1 does not hold; 11 in 2 breaks none", y.saw(14, 6, 0), 0);
     Due.same("owes nothing", y.saw(14, 6, 1), 0);
     Due.same("quiet", y.saw(1, 3, 1), 0);
+    QuietYards hours = Due.told("hill 2 2;deed 0 3 4 0 5;deed 1 4 4 0 6;deed 2 0 2 0 7;");
+    Due.same("hour 4: 0 and 1 hold", hours.saw(50, 4, 0), 1);
+    Due.same("hour 4: owes 5", hours.saw(50, 4, 1), 5);
+    Due.same("hour 3: 0 alone", hours.saw(50, 3, 1), 0);
+    Due.same("hour 1: 2 alone", hours.saw(50, 1, 0), 2);
+    Due.same("hour 5: none", hours.saw(50, 5, 0), 0);
+    Due.tell(hours, "");
+    Due.tell(hours, "deed 0 0 11 0 9;");
+    Due.same("deeds of an earlier text", hours.saw(50, 3, 1), 0);
     QuietYards far = Due.told("hill 5 1;deed 0 0 11 0 9;deed 1 0 11 0 3;");
     Due.same("far away", far.saw(9, 0, 0), 4);
     Due.same("harmless", far.saw(9, 0, 1), 0);

@@ -6,6 +6,7 @@ final class SoundTest {
     alongARow();
     leastLoss();
     roundabout();
+    windingWay();
     allWaysOfSmallHills();
     loudRefused();
     heard();
@@ -63,6 +64,26 @@ final class SoundTest {
     y.wind(0, 2);
     // 0 down to 6: 98, 97; right: 94, 91; up: 86, 81; left through the wall: 78 / 2
     Due.same("with the wind", y.loud(0, 1), 39);
+  }
+
+  /** A way that winds through a big hill, and is louder to its end than any that goes through walls. */
+  private static void windingWay() {
+    QuietYards y = Due.told("hill 8 6;worker 47 99 0 0;");
+    y.fade(1);
+    for (int row = 0; row < 5; row++) {
+      int open = row % 2 == 0 ? 0 : 7;
+      for (int x = 0; x < 8; x++) {
+        if (x != open) y.build(8 * row + x, 8 * row + x + 8, 0, 3);
+      }
+    }
+    int loud = 99;
+    for (int row = 5; row >= 0; row--) {
+      for (int i = 0; i < 8; i++) {
+        int x = row % 2 == 1 ? 7 - i : i;
+        Due.same("winding " + x + " " + row, y.loud(0, 8 * row + x), loud);
+        loud--;
+      }
+    }
   }
 
   /** Every way that enters no yard twice, tried one by one. */
