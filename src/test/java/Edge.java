@@ -129,9 +129,15 @@ final class Edge {
     }
     seen.append("\nhill ").append(y.hill());
     ground(y, seen);
-    told(y, seen);
-    return seen.append("\ntext ").append(y.clear()).append(" back ").append(y.back(0)).append(' ').append(y.back(1))
+    return seen.append(" worker ").append(y.worker(0, 1)).append(' ').append(y.worker(0, 3)).append(' ').append(y.deed(0, 5))
+        .append("\ntext ").append(y.clear()).append(" back ").append(y.back(0)).append(' ').append(y.back(1))
         .append(" trace ").append(y.trace()).toString();
+  }
+
+  /** The same but for what the images and the text hold. */
+  static String now(QuietYards y) {
+    String all = all(y);
+    return all.substring(0, all.indexOf("\nback"));
   }
 
   private static void ground(QuietYards y, StringBuilder seen) {
@@ -146,10 +152,8 @@ final class Edge {
         if (a + wide < yards) seen.append(' ').append(y.between(a, a + wide, what));
       }
     }
-    seen.append(" loud");
-    for (int w = 0; w < y.count(2); w++) {
-      for (int yard = 0; yard < yards; yard++) seen.append(' ').append(y.loud(w, yard));
-    }
+    seen.append(" heard");
+    for (int yard = 0; yard < yards; yard++) seen.append(' ').append(y.heard(yard, -1)).append(' ').append(y.heard(yard, 21));
     for (int what = 0; what < 3; what++) seen.append(" who ").append(y.who(what));
   }
 
@@ -157,6 +161,7 @@ final class Edge {
     seen.append("\nworkers");
     for (int w = 0; w < y.count(2); w++) {
       for (int what = 0; what < 4; what++) seen.append(' ').append(y.worker(w, what));
+      for (int yard = 0; yard < 6; yard++) seen.append(' ').append(y.loud(w, yard));
     }
     seen.append(" deeds");
     for (int d = 0; d < y.count(3); d++) {

@@ -75,6 +75,16 @@ final class EdgesOfKindsTest {
     QuietYards y = Due.told("worker 3 50 2 9;");
     for (int i = 1; i <= 480; i++) y.rate(5, 0);
     Due.same("480 times MANY", y.trace(), 480L * 100001);
+    long trace = 0;
+    y = Due.told("worker 3 50 2 9;");
+    int[] traces = {1, 11, 101, 1101, 10011, 100001};
+    for (int times = 1; times <= 3; times++) {
+      for (int kind = 5; kind >= 0; kind--) {
+        for (int i = 0; i < times; i++) y.rate(kind, 0);
+        trace += (long) times * traces[kind];
+        Due.same("kind " + kind + " as well", y.trace(), trace);
+      }
+    }
   }
 
   /** Promise 22, "NO: BAD": no such kind, no such worker, neither; nothing is traced. */
@@ -133,13 +143,10 @@ final class EdgesOfKindsTest {
   /** Promise 23: nothing but the image changes. */
   private static void keepLeavesAll() {
     for (Edge.Made made : Edge.Made.values()) {
-      if (made == Edge.Made.SOME) continue;
       QuietYards kept = made.make();
-      QuietYards asked = made.make();
+      kept.keep(0);
       kept.keep(1);
-      for (int what = 0; what < 8; what++) Due.same("count " + what, kept.count(what), asked.count(what));
-      Due.same("trace", kept.trace(), asked.trace());
-      Due.same("image 0", kept.back(0), asked.back(0));
+      Due.same("all behind keep of " + made, Edge.now(kept), Edge.now(made.make()));
     }
   }
 

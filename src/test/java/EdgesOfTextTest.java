@@ -45,6 +45,8 @@ final class EdgesOfTextTest {
     leastAndGreatestFault();
     faultChangesNothing();
     readAnew();
+    nothingStaysOfEarlierTexts();
+    nothingComesOfFaultyTexts();
     Due.close("EdgesOfTextTest");
   }
 
@@ -480,7 +482,7 @@ final class EdgesOfTextTest {
     for (String word : words) {
       Due.same("less than " + word, Due.fault(" " + word.substring(0, word.length() - 1) + " 1;"), 1);
       Due.same("its end alone: " + word, Due.fault(" " + word.substring(1) + " 1;"), 1);
-      Due.same("more than " + word, Due.fault(" " + word + "s 1;"), 1);
+      for (char more : new char[] {'a', 's', 'z'}) Due.same("more than " + word, Due.fault(" " + word + more + " 1;"), 1);
       Due.same("twice " + word, Due.fault(" " + word + word + " 1;"), 1);
       for (int i = 0; i < word.length(); i++) {
         String other = word.substring(0, i) + (char) (word.charAt(i) == 'z' ? 'y' : word.charAt(i) + 1) + word.substring(i + 1);
@@ -492,7 +494,7 @@ final class EdgesOfTextTest {
     String[] ways = {"right", "left", "down", "up"};
     for (String way : ways) {
       Due.same("less than " + way, Due.fault("wind " + way.substring(0, way.length() - 1) + " 1;"), 5);
-      Due.same("more than " + way, Due.fault("wind " + way + "s 1;"), 5);
+      for (char more : new char[] {'a', 's', 'z'}) Due.same("more than " + way, Due.fault("wind " + way + more + " 1;"), 5);
       for (int i = 0; i < way.length(); i++) {
         String other = way.substring(0, i) + (char) (way.charAt(i) - 1) + way.substring(i + 1);
         Due.same("other " + other, Due.fault("wind " + other + " 1;"), 5);
@@ -506,7 +508,7 @@ final class EdgesOfTextTest {
   private static void numberAboveNinetyNine() {
     Due.same("99 stands", hillOf("worker 0 99 0 99;"), 1);
     String[] wraps = {"100", "101", "256", "257", "65537", "2147483647", "2147483648", "4294967296", "4294967297",
-        "9223372036854775807", "18446744073709551616", "18446744073709551617", "1" + "0".repeat(390)};
+        "990", "999", "9900", "1000", "9223372036854775807", "18446744073709551616", "18446744073709551617", "1" + "0".repeat(390)};
     for (String wrap : wraps) {
       String text = "worker 0 " + wrap + " 0 0;";
       Due.same("noise " + wrap, Due.fault(text.substring(0, Math.min(400, text.length()))), 9);
@@ -604,6 +606,43 @@ final class EdgesOfTextTest {
         Due.same("image 1 of " + made, y.back(1), Edge.STATE);
         Due.same("trace of " + made, y.trace(), trace);
         Due.same("fade of " + made, y.fade(9), fade);
+      }
+    }
+  }
+
+  private static final String MUCH = "hill 5 2;wall 0 1 3;wall 5 6 1;felt 5 6 9;felt 0 5 4;wind left 2;wind up 2;"
+      + "worker 3 9 1 5;worker 4 8 2 6;deed 5 0 5 4 5;deed 5 2 8 9 9;";
+
+  /** Promise 4, "THE TEXT tells all": as often as it is read, what one text tells is none of the next. */
+  private static void nothingStaysOfEarlierTexts() {
+    String[] texts = {"", "worker 5 50 1 2;deed 5 1 9 40 6;deed 6 0 11 20 7;", "hill 2 2;worker 3 50 1 2;deed 1 3 4 5 6;"};
+    for (String text : texts) {
+      String due = Edge.all(Due.told(text));
+      for (int before = 1; before <= 4; before++) {
+        QuietYards y = new QuietYards();
+        for (int i = 0; i < before; i++) Due.same("much", Due.tell(y, MUCH), 11);
+        Due.holds("read", Due.tell(y, text) >= 0);
+        Due.same("behind " + before + ": " + text, Edge.all(y), due);
+      }
+      QuietYards often = new QuietYards();
+      for (int i = 0; i < 4; i++) {
+        Due.tell(often, MUCH);
+        Due.tell(often, text);
+      }
+      Due.same("in turns: " + text, Edge.all(often), due);
+    }
+  }
+
+  /** Promise 4, "-10 less FAULT: nothing changes": what a faulty text told ahead of its fault is none of the next text. */
+  private static void nothingComesOfFaultyTexts() {
+    String[] texts = {"", "worker 5 50 1 2;deed 5 1 9 40 6;deed 6 0 11 20 7;"};
+    for (String text : texts) {
+      String due = Edge.all(Due.told(text));
+      for (int before = 1; before <= 4; before++) {
+        QuietYards y = new QuietYards();
+        for (int i = 0; i < before; i++) Due.same("much, and a fault", Due.tell(y, MUCH + ";"), -10 - MUCH.length());
+        Due.holds("read", Due.tell(y, text) >= 0);
+        Due.same("behind " + before + " faults: " + text, Edge.all(y), due);
       }
     }
   }

@@ -86,22 +86,29 @@ final class SoundTest {
     }
   }
 
-  /** Every way that enters no yard twice, tried one by one. */
-  private static int loudest(QuietYards y, int[] wind, int from, int to, int loud, int entered) {
+  /** Every way that enters no yard twice, tried one by one; walls and felt by the two yards, walls -1 if there is no way. */
+  private static int loudest(int[][] walls, int[][] felt, int[] wind, int from, int to, int loud, int entered) {
     if (from == to) return loud;
     int best = 0;
     int[] steps = {1, -1, 3, -3};
     int[] losses = {3 - wind[0], 3 + wind[0], 3 - wind[1], 3 + wind[1]};
     for (int i = 0; i < 4; i++) {
       int next = from + steps[i];
-      int walls = y.between(from, next, 0);
-      if (walls < 0 || (entered >> next & 1) != 0) continue;
+      if (next < 0 || next > 8 || walls[from][next] < 0 || (entered >> next & 1) != 0) continue;
       int passed = loud - Math.max(1, losses[i]);
-      for (int wall = 0; wall < walls; wall++) passed /= 2;
-      passed = Math.max(0, passed - y.between(from, next, 1));
-      best = Math.max(best, loudest(y, wind, next, to, passed, entered | 1 << next));
+      for (int wall = 0; wall < walls[from][next]; wall++) passed /= 2;
+      passed = Math.max(0, passed - felt[from][next]);
+      best = Math.max(best, loudest(walls, felt, wind, next, to, passed, entered | 1 << next));
     }
     return best;
+  }
+
+  private static int[][] allBetween(QuietYards y, int what) {
+    int[][] all = new int[9][9];
+    for (int a = 0; a < 9; a++) {
+      for (int b = 0; b < 9; b++) all[a][b] = y.between(a, b, what);
+    }
+    return all;
   }
 
   private static void allWaysOfSmallHills() {
@@ -119,13 +126,13 @@ final class SoundTest {
       int[] wind = {(seed >>> 9) % 5 - 2, (seed >>> 12) % 5 - 2};
       Due.tell(y, text.toString());
       y.wind(wind[0], wind[1]);
-      QuietYards same = new QuietYards();
-      Due.tell(same, text.toString());
+      int[][] walls = allBetween(y, 0);
+      int[][] felt = allBetween(y, 1);
       for (int w = 0; w < 3; w++) {
         for (int yard = 0; yard < 9; yard++) {
           int from = y.worker(w, 0);
           Due.same("round " + round + " loud " + w + " in " + yard, y.loud(w, yard),
-              loudest(same, wind, from, yard, y.worker(w, 1), 1 << from));
+              loudest(walls, felt, wind, from, yard, y.worker(w, 1), 1 << from));
         }
       }
     }
