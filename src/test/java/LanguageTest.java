@@ -1,12 +1,19 @@
 import java.io.IOException;
+import java.lang.reflect.Field;
+import java.lang.reflect.Method;
+import java.lang.reflect.Modifier;
 import java.nio.charset.StandardCharsets;
 import java.nio.file.Files;
 import java.nio.file.Path;
+import java.util.ArrayList;
 import java.util.List;
+import java.util.Map;
+import java.util.TreeMap;
+import java.util.TreeSet;
 import java.util.regex.Matcher;
 import java.util.regex.Pattern;
 
-/** What of ../shared/LANGUAGE.md can be read off the source; run from the project's folder. */
+/** What of ../shared/LANGUAGE.md can be read off the source and the class; run from the project's folder. */
 final class LanguageTest {
   private static final Path SOURCE = Path.of("src/main/java/QuietYards.java");
 
@@ -18,6 +25,8 @@ final class LanguageTest {
     imports(code);
     library(code);
     sizes(code);
+    for (Class<?> one : classes()) shape(one);
+    depthOfCalls(code);
     Due.close("LanguageTest");
   }
 
@@ -77,5 +86,76 @@ final class LanguageTest {
       }
       Due.holds("a line's length: " + line, line.length() <= 120);
     }
+  }
+
+  // ---- the class as it is compiled
+
+  private static List<Class<?>> classes() {
+    List<Class<?>> all = new ArrayList<>(List.of(QuietYards.class));
+    all.addAll(List.of(QuietYards.class.getDeclaredClasses()));
+    return all;
+  }
+
+  private static void shape(Class<?> one) {
+    Due.same("rule 2: classes inside " + one.getSimpleName(), one.getDeclaredClasses().length,
+        one == QuietYards.class ? classes().size() - 1 : 0);
+    int fields = 0;
+    for (Field field : one.getDeclaredFields()) {
+      boolean constant = Modifier.isStatic(field.getModifiers());
+      Due.holds("rule 5: " + field, !constant || Modifier.isFinal(field.getModifiers()) && mayBeConstant(field.getType()));
+      Due.holds("rule 3: " + field, mayBeHeld(field.getType()));
+      if (!constant) fields++;
+    }
+    Due.holds("rule 11: some twenty fields at most in " + one.getSimpleName(), fields <= 20);
+    for (Method method : one.getDeclaredMethods()) {
+      Due.holds("rule 11: seven parameters at most: " + method, method.getParameterCount() <= 7);
+      for (Class<?> type : method.getParameterTypes()) Due.holds("rule 3: " + method, mayBeHeld(type));
+      Due.holds("rule 3: " + method, method.getReturnType() == void.class || mayBeHeld(method.getReturnType()));
+    }
+  }
+
+  private static boolean mayBeConstant(Class<?> type) {
+    Class<?> part = type.isArray() ? type.getComponentType() : type;
+    if (type.isArray()) return List.of(int.class, long.class, char.class, byte.class).contains(part);
+    return List.of(int.class, long.class, boolean.class, char.class, String.class).contains(part);
+  }
+
+  /** Numbers, texts and own classes, rows of these, and rows of rows of numbers. */
+  private static boolean mayBeHeld(Class<?> type) {
+    if (!type.isArray()) return type.isPrimitive() || type == String.class || classes().contains(type);
+    Class<?> part = type.getComponentType();
+    if (part.isArray()) return part.getComponentType().isPrimitive();
+    return part.isPrimitive() || classes().contains(part);
+  }
+
+  // ---- calls by their names: two methods of one name count as one, which can only make it deeper
+
+  private static void depthOfCalls(String code) {
+    Map<String, TreeSet<String>> calls = new TreeMap<>();
+    String open = null;
+    for (String line : code.lines().toList()) {
+      Matcher head = Pattern.compile(" {2,4}(?:public |private |static |final )*[\\w\\[\\]]+ (\\w+)\\(.*\\) \\{").matcher(line);
+      if (head.matches()) {
+        open = head.group(1);
+        calls.computeIfAbsent(open, name -> new TreeSet<>());
+      } else if (open != null) {
+        Matcher call = Pattern.compile("\\b(\\w+)\\(").matcher(line);
+        while (call.find()) calls.get(open).add(call.group(1));
+      }
+      if (line.matches(" {2,4}\\}")) open = null;
+    }
+    Due.holds("calls are found", calls.get("hill").contains("read") && calls.get("spells").contains("charAt"));
+    for (String name : calls.keySet()) {
+      int depth = depth(calls, name, 1);
+      Due.holds("rules 8, 11: " + name + " goes " + depth + " deep", depth <= 8);
+    }
+  }
+
+  private static int depth(Map<String, TreeSet<String>> calls, String name, int above) {
+    // a name that calls itself would go on for ever
+    if (above > 20 || !calls.containsKey(name)) return above;
+    int deepest = above;
+    for (String called : calls.get(name)) deepest = Math.max(deepest, depth(calls, called, above + 1));
+    return deepest;
   }
 }
